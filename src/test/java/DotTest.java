@@ -4,6 +4,7 @@ final class DotTest {
         amounts();
         screensOfNow();
         shares();
+        sharesAtTheEdges();
         sharesOfMixedCells();
         fullCellsByShape();
         proofs();
@@ -69,6 +70,20 @@ final class DotTest {
         Check.due(-1, () -> room.share(0, 0, 46, 30));
         Check.due(-1, () -> room.share(0, 0, 30, 62));
         Check.due(-1, () -> room.share(0, 0, 47, 63));
+    }
+
+    /** With a 2, b 1 a full cell is a place of the lattice and the four beside it. */
+    private static void sharesAtTheEdges() {
+        PrePressRoom room = roomOf(0, 255);
+        room.screen(0, 2, 1, 0);
+        int[][] within = {{1, 3}, {2, 1}, {46, 3}, {4, 62}, {0, 3}, {2, 0}, {47, 3}, {4, 63}};
+        for (int[] xy : within) {
+            Check.due(5, () -> room.share(0, 0, xy[0], xy[1]));
+        }
+        int[][] beyond = {{0, 0}, {0, 5}, {5, 0}, {47, 6}, {6, 63}, {1, 5}, {5, 1}, {46, 6}, {6, 62}};
+        for (int[] xy : beyond) {
+            Check.due(-1, () -> room.share(0, 0, xy[0], xy[1]));
+        }
     }
 
     /** Cells of two colours in one full cell: the one at 2 .. 5 across and down. */

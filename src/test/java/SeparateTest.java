@@ -52,6 +52,9 @@ final class SeparateTest {
         room.grey(0, 200);
         parts(room, new int[] {10, 20, 30, 255}, new int[] {0, 0, 0, 255});
         parts(room, new int[] {0, 0, 0, 255}, new int[] {0, 0, 0, 255});
+        parts(room, new int[] {0, 9, 0, 255}, new int[] {0, 0, 0, 255});
+        parts(room, new int[] {9, 0, 0, 200}, new int[] {0, 0, 0, 200});
+        parts(room, new int[] {0, 0, 9, 199}, new int[] {0, 0, 1, 199});
         parts(room, new int[] {10, 20, 30, 199}, new int[] {0, 0, 0, 199});
         parts(room, new int[] {90, 20, 30, 190}, new int[] {6, 1, 2, 190});
         room.grey(33, 400);
@@ -71,6 +74,8 @@ final class SeparateTest {
         Check.due(1, () -> room.separate(0));
         room.box(0, 47, 63, 1, 1, 31);
         Check.due(2, () -> room.separate(0));
+        room.box(0, 0, 0, 1, 1, 0);
+        Check.due(3, () -> room.separate(0));
         Check.due(1, () -> room.separate(3));
     }
 
