@@ -43,6 +43,14 @@ final class ScreenTest {
         ranks(room, 7, 0, 0, 4, 3);
         ranks(room, 7, -1, 1, 6, 5);
         ranks(room, 7, 1, 2, 8, 7);
+        // Slanted lines: 1, 1 lies nearer to the line along 3, 1 than -1, 1.
+        Check.due(10, () -> room.screen(7, 3, 1, 1));
+        int[][] byRank = {{0, 0}, {-1, 0}, {1, 0}, {-1, -1}, {1, 1}, {0, -1}, {0, 1}, {1, -1}, {-1, 1}, {-1, -2}};
+        for (int rank = 0; rank < byRank.length; rank++) {
+            int[] xy = byRank[rank];
+            Check.due(rank, () -> room.rank(7, xy[0], xy[1]));
+            Check.due(rank, () -> room.rank(7, xy[0] + 2, xy[1] + 4));
+        }
     }
 
     /** With a 5 the hearts are -2 .. 2 both ways: 1, 1 comes before 2, 0, but 2, 0 before 2, 1. */

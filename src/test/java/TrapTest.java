@@ -8,6 +8,7 @@ final class TrapTest {
         nearestThenLowest();
         trapsDoNotSpreadOn();
         borders();
+        colourZeroAndCorners();
         wrongInputs();
         Check.end();
     }
@@ -170,6 +171,34 @@ final class TrapTest {
         Check.due(67, () -> room.trapped(0, 46, 9));
         Check.due(0, () -> room.trapped(0, 47, 63));
         Check.due(0, () -> room.trapped(0, 20, 0));
+    }
+
+    /** Colour 0 spreads and is spread into as any other, and the page's corners are cells as any other. */
+    private static void colourZeroAndCorners() {
+        PrePressRoom room = roomWith(new int[] {0, 2, 200}, new int[] {63, 3, 150});
+        room.box(0, 0, 0, 48, 64, 63);
+        room.box(0, 1, 1, 46, 62, 0);
+        room.separate(0);
+        Check.due(2 * 48 + 2 * 62, () -> room.trap(0, 1));
+        Check.due(1 + 63, () -> room.trapped(0, 0, 0));
+        Check.due(1 + 63, () -> room.trapped(0, 47, 63));
+        Check.due(0, () -> room.trapped(0, 1, 1));
+        room.colour(0, 2, 0);
+        room.colour(0, 3, 160);
+        room.colour(63, 3, 0);
+        room.colour(63, 2, 64);
+        room.separate(0);
+        Check.due(2 * 46 + 2 * 60, () -> room.trap(0, 1));
+        Check.due(1 + 64 * 63, () -> room.trapped(0, 46, 62));
+        room.box(0, 0, 0, 48, 64, 63);
+        room.separate(0);
+        Check.due(0, () -> room.trap(0, 3));
+        room.colour(0, 3, 0);
+        room.colour(0, 2, 100);
+        room.colour(63, 3, 150);
+        room.colour(63, 2, 0);
+        room.separate(0);
+        Check.due(0, () -> room.trap(0, 3));
     }
 
     private static void wrongInputs() {
