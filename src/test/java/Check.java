@@ -18,6 +18,10 @@ final class Check {
         void run();
     }
 
+    interface NumberCall {
+        Object run(int n);
+    }
+
     /** The very class of an exception is told, so that one of its subclasses is not taken for it. */
     static String answer(Call call) {
         try {
@@ -40,6 +44,18 @@ final class Check {
 
     static void dueOf(Object want, Deed deed) {
         compare(place(), answer(deed), String.valueOf(want));
+    }
+
+    /** A number's first and last value are allowed, those beside them are refused, and so are the ends of all ints. */
+    static void ends(int least, int most, String refusal, NumberCall call) {
+        String place = place();
+        for (int n : new int[] {least, most}) {
+            boolean refused = answer(() -> call.run(n)).startsWith("throws.");
+            compare(place + " with " + n, refused ? "refused" : "allowed", "allowed");
+        }
+        for (int n : new int[] {least - 1, most + 1, Integer.MIN_VALUE, Integer.MAX_VALUE}) {
+            compare(place + " with " + n, answer(() -> call.run(n)), refusal);
+        }
     }
 
     static void compare(String what, String got, String want) {

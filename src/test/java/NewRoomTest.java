@@ -6,9 +6,13 @@ final class NewRoomTest {
             int p = page;
             Check.due(0, () -> room.cell(p, 0, 0));
             Check.due(0, () -> room.cell(p, 47, 63));
+            Check.due(0, () -> room.box(p, 0, 0, 48, 64, 0));
             Check.due(Check.STATE, () -> room.plate(p, 0, 0, 0));
             Check.due(Check.STATE, () -> room.trapped(p, 0, 0));
             Check.due(Check.STATE, () -> room.trap(p, 1));
+            Check.due(Check.STATE, () -> room.dot(p, 0, 0, 0));
+            Check.due(Check.STATE, () -> room.share(p, 0, 20, 20));
+            Check.due(Check.STATE, () -> room.proof(p, 0, 0));
         }
         Check.due(Check.STATE, () -> room.slot(0, 0, 0, 0));
         Check.due(Check.STATE, () -> room.read(0, 0));
@@ -19,8 +23,9 @@ final class NewRoomTest {
         Check.end();
     }
 
+    /** All 512 amounts: just the calls that an object is made for. */
     private static void colours(PrePressRoom room) {
-        for (int c = 0; c < 64; c += 21) {
+        for (int c = 0; c < 64; c++) {
             for (int ink = 0; ink < 8; ink++) {
                 int colour = c;
                 int i = ink;

@@ -144,8 +144,6 @@ final class PlainRoomTest {
 
     /** Every lattice that is allowed, with every shape: the ranks of places all over. */
     private static void everyLattice() {
-        PrePressRoom room = new PrePressRoom();
-        PlainRoom plain = new PlainRoom();
         for (int a = -20; a <= 20; a++) {
             for (int b = -20; b <= 20; b++) {
                 int n = a * a + b * b;
@@ -153,6 +151,8 @@ final class PlainRoomTest {
                 if (n == 0 || n > 400 || n > 40 && (a < 0 || b < 0 || (a + b) % 4 != 0)) {
                     continue;
                 }
+                PrePressRoom room = new PrePressRoom();
+                PlainRoom plain = new PlainRoom();
                 for (int shape = 0; shape < 3; shape++) {
                     room.screen(0, a, b, shape);
                     plain.screen(0, a, b, shape);

@@ -82,24 +82,25 @@ final class ScreenTest {
         Check.due(0, () -> room.rank(0, 777, -998));
     }
 
-    /** Each rank of 0 .. N - 1 is there once among N places of a row and its fellows. */
+    /** Each rank of 0 .. N - 1 is there N times among N rows of N places. A room for each row keeps to 512 calls. */
     private static void everyRankOnce() {
         int[][] lattices = {{20, 0}, {0, -20}, {12, 16}, {-16, 12}, {14, 14}, {7, 3}, {6, 4}, {-9, 9}, {1, 0}, {19, 6}};
         for (int[] ab : lattices) {
             for (int shape = 0; shape < 3; shape++) {
-                PrePressRoom room = new PrePressRoom();
-                int n = room.screen(5, ab[0], ab[1], shape);
+                int n = ab[0] * ab[0] + ab[1] * ab[1];
                 int[] seen = new int[n];
                 for (int y = 0; y < n; y++) {
+                    PrePressRoom room = new PrePressRoom();
+                    room.screen(5, ab[0], ab[1], shape);
                     for (int x = 0; x < n; x++) {
                         seen[room.rank(5, x, y)]++;
                     }
+                    Check.due(0, () -> room.rank(5, 2 * ab[0] + 3 * ab[1], 2 * ab[1] - 3 * ab[0]));
                 }
                 for (int rank = 0; rank < n; rank++) {
                     int r = rank;
                     Check.due(n, () -> seen[r]);
                 }
-                Check.due(0, () -> room.rank(5, 2 * ab[0] + 3 * ab[1], 2 * ab[1] - 3 * ab[0]));
             }
         }
     }

@@ -13,20 +13,12 @@ final class TrapTest {
         Check.end();
     }
 
-    private static PrePressRoom roomWith(int[]... amounts) {
-        PrePressRoom room = new PrePressRoom();
-        for (int[] amount : amounts) {
-            room.colour(amount[0], amount[1], amount[2]);
-        }
-        return room;
-    }
-
     /** Colour 1 is yellow, the lighter one, on a black page of colour 2. */
     private static void widths() {
         int[] due = {8, 24, 48};
         for (int width = 1; width <= 3; width++) {
             int w = width;
-            PrePressRoom room = roomWith(new int[] {1, 2, 200}, new int[] {2, 3, 150});
+            PrePressRoom room = Rooms.with(new int[] {1, 2, 200}, new int[] {2, 3, 150});
             room.box(0, 0, 0, 48, 64, 2);
             room.box(0, 20, 20, 1, 1, 1);
             room.separate(0);
@@ -49,11 +41,7 @@ final class TrapTest {
     }
 
     private static int trapsOfTwo(int[]... amounts) {
-        PrePressRoom room = roomWith(amounts);
-        room.box(0, 0, 0, 48, 64, 2);
-        room.box(0, 20, 20, 1, 1, 1);
-        room.separate(0);
-        return room.trap(0, 1);
+        return Rooms.ofMarkOnGround(1, 2, amounts).trap(0, 1);
     }
 
     private static void shyness() {
@@ -94,7 +82,7 @@ final class TrapTest {
 
     /** Colour 1 alone is black of 100 after separating, and shy of the cyan of colour 2. */
     private static void separatedInksCount() {
-        PrePressRoom room = roomWith(new int[] {1, 0, 100}, new int[] {1, 1, 100}, new int[] {1, 2, 100},
+        PrePressRoom room = Rooms.with(new int[] {1, 0, 100}, new int[] {1, 1, 100}, new int[] {1, 2, 100},
             new int[] {2, 0, 255});
         room.box(0, 0, 0, 48, 64, 2);
         room.box(0, 20, 20, 1, 1, 1);
@@ -114,7 +102,7 @@ final class TrapTest {
 
     /** Black of colour 9 between yellow of 5 and 3 and cyan of 7, all lighter. */
     private static void nearestThenLowest() {
-        PrePressRoom room = roomWith(new int[] {9, 3, 255}, new int[] {5, 2, 100}, new int[] {3, 2, 90},
+        PrePressRoom room = Rooms.with(new int[] {9, 3, 255}, new int[] {5, 2, 100}, new int[] {3, 2, 90},
             new int[] {7, 0, 80});
         room.box(0, 0, 0, 48, 64, 9);
         room.box(0, 10, 10, 1, 1, 7);
@@ -142,7 +130,7 @@ final class TrapTest {
 
     /** Yellow spreads under cyan, but not through it; nor does cyan that has yellow below spread less. */
     private static void trapsDoNotSpreadOn() {
-        PrePressRoom room = roomWith(new int[] {1, 2, 255}, new int[] {2, 0, 100}, new int[] {3, 3, 255},
+        PrePressRoom room = Rooms.with(new int[] {1, 2, 255}, new int[] {2, 0, 100}, new int[] {3, 3, 255},
             new int[] {3, 2, 64});
         room.box(0, 0, 0, 48, 64, 3);
         room.box(0, 0, 0, 1, 64, 1);
@@ -158,7 +146,7 @@ final class TrapTest {
 
     /** Cells at the end of one row and the start of the next are no neighbours. */
     private static void borders() {
-        PrePressRoom room = roomWith(new int[] {1, 2, 200}, new int[] {2, 3, 150});
+        PrePressRoom room = Rooms.with(new int[] {1, 2, 200}, new int[] {2, 3, 150});
         room.box(0, 0, 0, 48, 64, 2);
         room.box(0, 47, 10, 1, 1, 1);
         room.box(0, 0, 0, 1, 1, 1);
@@ -175,7 +163,7 @@ final class TrapTest {
 
     /** Colour 0 spreads and is spread into as any other, and the page's corners are cells as any other. */
     private static void colourZeroAndCorners() {
-        PrePressRoom room = roomWith(new int[] {0, 2, 200}, new int[] {63, 3, 150});
+        PrePressRoom room = Rooms.with(new int[] {0, 2, 200}, new int[] {63, 3, 150});
         room.box(0, 0, 0, 48, 64, 63);
         room.box(0, 1, 1, 46, 62, 0);
         room.separate(0);
