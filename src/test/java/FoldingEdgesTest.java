@@ -164,6 +164,11 @@ final class FoldingEdgesTest {
         Check.due(Check.INDEX, () -> room.slot(1, 0, 0, 0));
         Check.due(Check.INDEX, () -> room.slot(0, 0, 2, 0));
         Check.due(Check.INDEX, () -> room.read(4, 0));
+        for (int k = 0; k < 4; k++) {
+            int at = k;
+            Check.due(at < 2 ? 1 : 0, () -> room.read(at, 0));
+            Check.due(at % 3 == 0 ? 1 : 0, () -> room.read(at, 1));
+        }
         Check.due(2, () -> room.impose(64, 4, 0));
         Check.due(0, () -> moveFromTop(room, 7));
         Check.due(63, () -> pageRead(room, 1, 31));

@@ -128,6 +128,11 @@ final class ScreenEdgesTest {
         room.screen(0, 0, -5, 1);
         ranks(room, 0, new int[] {0, 0}, new int[] {0, -1}, new int[] {0, 1}, new int[] {0, -2}, new int[] {0, 2},
             new int[] {-1, 0}, new int[] {1, 0}, new int[] {-1, -1}, new int[] {1, -1}, new int[] {-1, 1});
+        // A slanted line goes along a, b: 1, 1 is nearer to it than 0, -1 when both are above 0.
+        room.screen(0, 3, 2, 1);
+        ranks(room, 0, new int[] {0, 0}, new int[] {-1, -1}, new int[] {1, 1}, new int[] {-1, 0}, new int[] {1, 0});
+        room.screen(0, 3, -2, 1);
+        ranks(room, 0, new int[] {0, 0}, new int[] {1, -1}, new int[] {-1, 1}, new int[] {-1, 0}, new int[] {1, 0});
     }
 
     /** Places below 0 and far away go on as those near by. */
@@ -189,7 +194,7 @@ final class ScreenEdgesTest {
         for (int[] of : due) {
             Check.due(of[2], () -> room.share(0, 0, of[0], of[1]));
         }
-        // With a 4 the last full cells end at 45 across and at 61 down, with a 3 they reach the page's end.
+        // With a 4 the last full cells end at 45 across and at 61 down.
         room.screen(0, 4, 0, 0);
         Check.due(16, () -> room.share(0, 0, 45, 61));
         Check.due(-1, () -> room.share(0, 0, 46, 61));
@@ -202,6 +207,18 @@ final class ScreenEdgesTest {
         Check.due(-1, () -> room.share(0, 0, 47, 61));
         Check.due(9, () -> room.share(0, 0, 46, 2));
         Check.due(-1, () -> room.share(0, 0, 1, 2));
+        // With a 5 they reach the last column, with a 2 one column and one row of them is beyond each end.
+        room.screen(0, 5, 0, 0);
+        Check.due(25, () -> room.share(0, 0, 47, 62));
+        Check.due(25, () -> room.share(0, 0, 43, 62));
+        Check.due(-1, () -> room.share(0, 0, 47, 63));
+        room.screen(0, 2, 0, 0);
+        Check.due(4, () -> room.share(0, 0, 46, 62));
+        Check.due(-1, () -> room.share(0, 0, 47, 62));
+        Check.due(-1, () -> room.share(0, 0, 46, 63));
+        Check.due(4, () -> room.share(0, 0, 1, 1));
+        Check.due(-1, () -> room.share(0, 0, 0, 1));
+        Check.due(-1, () -> room.share(0, 0, 1, 0));
     }
 
     /** Of N 1 every cell is a full cell, in the corners, too. */

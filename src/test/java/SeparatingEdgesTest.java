@@ -201,6 +201,8 @@ final class SeparatingEdgesTest {
         Check.due(2, () -> room.separate(2));
         room.box(2, 0, 0, 48, 64, 63);
         Check.due(1, () -> room.separate(2));
+        room.box(2, 0, 0, 1, 1, 0);
+        Check.due(2, () -> room.separate(2));
         Check.due(1, () -> room.separate(1));
     }
 
